@@ -74,10 +74,10 @@ public final class KeptTree {
         draft = new Bytes();
         history = new History();
         tokens = new Tokens(text);
-        tree = new Tree(tokens);
+        tree = new Tree(text, tokens);
         parser = new Parser(tokens, tree);
         keeper = new Keeper(tokens, tree);
-        worth = new Worth(tokens, tree);
+        worth = new Worth(text, tree);
         editsKept = 0;
         editsNodes = 0;
         parser.parse();
@@ -132,18 +132,18 @@ public final class KeptTree {
             return NONE;
         }
         int one = tree.fromOf(node);
-        int uses = draftRenamed(one, n);
+        int many = draftRenamed(one, n);
         if (draft.isSpilled()) {
             return TOO_LONG;
         }
         if (Tokens.keyword(tape, 0, n) != NO_SIGN || tokens.isSpelled(one, tape, n)) {
             return BAD_NAME;
         }
-        int a = tree.firstOf(sameName(one, true));
-        int b = tree.endOf(sameName(one, false));
+        int a = tokens.firstOf(firstUse(one));
+        int b = tokens.endOf(lastUse(one));
         tape.clear();
         settle(a, b);
-        return uses;
+        return many;
     }
 
     public int drop(int node) {
@@ -310,11 +310,11 @@ public final class KeptTree {
         int many = 0;
         int done = 0;
         draft.clear();
-        for (int at = 0; at < tree.size(); at++) {
-            if (tree.isOf(at, NAME) && tokens.isSame(tree.fromOf(at), one)) {
-                draft.addFrom(text, done, tree.firstOf(at));
+        for (int at = 0; at < tokens.size(); at++) {
+            if (isUse(at, one)) {
+                draft.addFrom(text, done, tokens.firstOf(at));
                 draft.addFrom(tape, 0, n);
-                done = tree.endOf(at);
+                done = tokens.endOf(at);
                 many++;
             }
         }
@@ -322,18 +322,27 @@ public final class KeptTree {
         return many;
     }
 
-    // The first or the last NAME with the bytes of a token.
-    private int sameName(int one, boolean first) {
-        int found = NONE;
-        for (int at = 0; at < tree.size(); at++) {
-            if (tree.isOf(at, NAME) && tokens.isSame(tree.fromOf(at), one)) {
-                if (first) {
-                    return at;
-                }
-                found = at;
+    // Whether a token is a NAME with the bytes of another one.
+    private boolean isUse(int token, int one) {
+        return tree.isOf(tree.leafOf(token), NAME) && tokens.isSame(token, one);
+    }
+
+    private int firstUse(int one) {
+        for (int at = 0; at < tokens.size(); at++) {
+            if (isUse(at, one)) {
+                return at;
             }
         }
-        return found;
+        return NONE;
+    }
+
+    private int lastUse(int one) {
+        for (int at = tokens.size() - 1; at >= 0; at--) {
+            if (isUse(at, one)) {
+                return at;
+            }
+        }
+        return NONE;
     }
 
     // ---- what there is
@@ -714,10 +723,10 @@ public final class KeptTree {
             return NONE;
         }
         int many = 0;
-        for (int at = 0; at < tree.size(); at++) {
-            if (tree.isOf(at, NAME) && sameName(tree.fromOf(at), true) == at) {
+        for (int at = 0; at < tokens.size(); at++) {
+            if (firstUse(at) == at) {
                 if (many == k) {
-                    return at;
+                    return tree.leafOf(at);
                 }
                 many++;
             }
@@ -730,8 +739,8 @@ public final class KeptTree {
             return NONE;
         }
         int many = 0;
-        for (int at = 0; at < tree.size(); at++) {
-            if (tree.isOf(at, NAME) && tokens.isSame(tree.fromOf(at), tree.fromOf(node))) {
+        for (int at = 0; at < tokens.size(); at++) {
+            if (isUse(at, tree.fromOf(node))) {
                 many++;
             }
         }
@@ -1148,6 +1157,7 @@ public final class KeptTree {
 
     /** The NODES in their order: those within a node follow it at once. */
     private static final class Tree {
+        private final Bytes text;
         private final Tokens tokens;
         private final int[] sorts;
         private final int[] ups;
@@ -1161,7 +1171,8 @@ public final class KeptTree {
         private final int[] leaves;
         private int held;
 
-        Tree(Tokens itsTokens) {
+        Tree(Bytes itsText, Tokens itsTokens) {
+            text = itsText;
             tokens = itsTokens;
             sorts = new int[MOST_NODES];
             ups = new int[MOST_NODES];
@@ -1252,7 +1263,7 @@ public final class KeptTree {
         }
 
         int endOf(int node) {
-            return node == FILE ? tokens.text.size() : tokens.endOf(fromOf(node) + takenOf(node) - 1);
+            return node == FILE ? text.size() : tokens.endOf(fromOf(node) + takenOf(node) - 1);
         }
 
         int kidOf(int node, int k) {
@@ -1906,12 +1917,12 @@ public final class KeptTree {
 
     /** The VALUES of nodes. */
     private static final class Worth {
-        private final Tokens tokens;
+        private final Bytes text;
         private final Tree tree;
         private final long[] worths;
 
-        Worth(Tokens itsTokens, Tree itsTree) {
-            tokens = itsTokens;
+        Worth(Bytes itsText, Tree itsTree) {
+            text = itsText;
             tree = itsTree;
             worths = new long[MOST_NODES];
         }
@@ -1957,7 +1968,7 @@ public final class KeptTree {
         private long ofDigits(int first, int end) {
             long sum = 0;
             for (int at = Math.max(first, end - 9); at < end; at++) {
-                sum = sum * 10 + tokens.text.at(at) - '0';
+                sum = sum * 10 + text.at(at) - '0';
             }
             return sum;
         }
