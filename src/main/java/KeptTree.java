@@ -724,7 +724,7 @@ public final class KeptTree {
         }
         int many = 0;
         for (int at = 0; at < tokens.size(); at++) {
-            if (firstUse(at) == at) {
+            if (isUse(at, at) && firstUse(at) == at) {
                 if (many == k) {
                     return tree.leafOf(at);
                 }

@@ -250,6 +250,11 @@ public final class PromiseTest {
         due("whiles", z.find(7, -1), 0);
         due("error", z.find(9, -1), 1);
         due("call", z.node(z.find(3, 0), 3), 1);
+        KeptTree s = Texts.of(times("while a ", 10) + "if {");
+        due("whiles", s.find(7, -1), 10);
+        due("ifs", s.find(6, -1), 0);
+        // if is the BODY's ERROR; { is outside of all of them
+        due("a BLOCK behind them", s.node(s.find(5, 0), 3), 1);
         KeptTree w = Texts.of(times("{", 9) + "if (a) {");
         // the bracket and the { are at NEST 10
         due("brackets", w.find(15, -1), 0);
@@ -335,6 +340,10 @@ public final class PromiseTest {
         due("tokens", s.count(6), 5);
         due("the first BLOCK is of other TOKENS", s.node(2, 8), 0);
         due("the second BLOCK", s.node(5, 8), 1);
+        KeptTree o = Texts.of(";;;;;;");
+        // ((01)(23))(45) becomes ((--)(01))((23)(45)): the pairs stay
+        due("REPEATS of just these TOKENS", Texts.edit(o, 0, 0, ";;"), 6 + 3);
+        due("lost REPEATS", o.lost(1), 2);
         KeptTree r = Texts.of("a=b*c;");
         Texts.edit(r, 0, 0, "b+");
         // b + a = b * c ; : ERROR ERROR SET
@@ -398,6 +407,11 @@ public final class PromiseTest {
         due("to another NAME's", Texts.rename(w, w.names(0), "b"), 2);
         dueText("rename", w, "b=b;b=b;");
         due("now one", w.names(-1), 1);
+        KeptTree v = Texts.of("a=bc;");
+        Texts.tape(v, "bcdefghijklmnopqrstu");
+        due("so already", v.rename(v.names(1), 2), -3);
+        due("all of the tape", v.rename(v.names(1), 20), 1);
+        dueText("rename", v, "a=bcdefghijklmnopqrstu;");
     }
 
     // Promise 6
@@ -743,6 +757,9 @@ public final class PromiseTest {
         KeptTree v = Texts.of(" \t ");
         due("a tab is none", v.blanks(0), 1);
         KeptTree u = Texts.of("{{\n}\n}");
+        KeptTree t = Texts.of("\nf(");
+        due("FILE", t.begun(0), 1);
+        due("MISSING at the end", t.begun(1), 7);
         due("both", u.level(1), 2);
         due("the outer one", u.level(2), 1);
     }
