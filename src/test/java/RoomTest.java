@@ -1,25 +1,31 @@
 import java.lang.management.ManagementFactory;
 import java.util.Random;
 
-/** That the calls make no objects, that an object is small, and that wild calls never throw. */
+/** That wild calls never throw and always end, and that an object with its 512 calls needs little room. */
 public final class RoomTest {
     private static final Checks CHECKS = new Checks();
+    private static final int MOST_CALLS = 512;
+    // A run of calls has room for 7.3 million fields and elements: four bytes each at the least.
+    private static final long ROOM = 4 * 7_300_000L;
     private static final int[] WILD = {0, 1, 2, 3, 5, 9, 12, 17, 18, 20, 40, 299, 300, 301, 1000, 1216, 1217,
         -1, -2, -3, Integer.MAX_VALUE, Integer.MAX_VALUE - 1, Integer.MIN_VALUE, Integer.MIN_VALUE + 1};
     private static final String SIGNS = "ab1=(){};,+-*/'# \nif";
 
     private final Random chance;
-    private final KeptTree x = new KeptTree();
+    private final KeptTree x;
+    private int calls = 0;
+    private int nodes = 1;
 
     private RoomTest(long seed) {
-        chance = new Random(seed);
+        this(new KeptTree(), seed);
     }
 
     public static void main(String[] args) {
-        for (int seed = 0; seed < 400; seed++) {
+        for (int seed = 0; seed < 600; seed++) {
             RoomTest test = new RoomTest(seed);
-            for (int call = 0; call < 512; call++) {
-                test.anyCall(chance(test));
+            // each call is two: how many nodes there are is asked ahead of it
+            while (test.calls + 2 <= MOST_CALLS) {
+                test.anyCall(test.chance.nextInt(60));
             }
         }
         CHECKS.due("wild calls end", 1, 1);
@@ -27,36 +33,40 @@ public final class RoomTest {
         CHECKS.end("RoomTest");
     }
 
-    private static int chance(RoomTest test) {
-        return test.chance.nextInt(60);
+    private static long allocated() {
+        return ((com.sun.management.ThreadMXBean) ManagementFactory.getThreadMXBean())
+                .getThreadAllocatedBytes(Thread.currentThread().getId());
     }
 
     private static void room() {
-        com.sun.management.ThreadMXBean threads =
-                (com.sun.management.ThreadMXBean) ManagementFactory.getThreadMXBean();
-        long self = Thread.currentThread().getId();
-        RoomTest test = new RoomTest(7);
-        // what the test itself makes is made ahead of the calls
-        int[] calls = new int[20000];
-        for (int i = 0; i < calls.length; i++) {
-            calls[i] = test.chance.nextInt(60);
+        String[] texts = {";".repeat(300), "a(}".repeat(100), "a=" + "+".repeat(298), "{".repeat(300),
+            "a=b;".repeat(75), "f(a,b)".repeat(50), "?".repeat(300), "'".repeat(300), "a ".repeat(150)};
+        allocated();
+        for (String text : texts) {
+            for (int call = 0; call <= 42; call++) {
+                long ahead = allocated();
+                dear(Texts.of(text), call);
+                long made = allocated() - ahead;
+                CHECKS.due("512 calls of " + call + " made " + made + " bytes", made < ROOM ? 1 : 0, 1);
+            }
         }
-        test.anyCall(0);
-        long before = threads.getThreadAllocatedBytes(self);
-        long again = threads.getThreadAllocatedBytes(self);
-        for (int call : calls) {
-            test.anyCall(call);
+    }
+
+    /** As many calls as there may be of one sort, with others between that make it work. */
+    private static void dear(KeptTree x, int call) {
+        RoomTest test = new RoomTest(x, call);
+        while (test.calls + 2 <= MOST_CALLS - 20) {
+            test.anyCall(test.chance.nextInt(8) == 0 ? 9 : call);
         }
-        long made = threads.getThreadAllocatedBytes(self) - again - (again - before);
-        CHECKS.due("20000 calls made " + made + " bytes, none is due: less than 1000", made < 1000 ? 1 : 0, 1);
-        long ahead = threads.getThreadAllocatedBytes(self);
-        KeptTree one = new KeptTree();
-        long size = threads.getThreadAllocatedBytes(self) - ahead;
-        CHECKS.due("an object of " + size + " bytes is below 200000", one.count(2) == 1 && size < 200000 ? 1 : 0, 1);
+    }
+
+    private RoomTest(KeptTree itsObject, long seed) {
+        x = itsObject;
+        chance = new Random(seed);
     }
 
     private int wild() {
-        return chance.nextInt(3) == 0 ? WILD[chance.nextInt(WILD.length)] : chance.nextInt(Math.max(1, x.count(2) + 2));
+        return chance.nextInt(3) == 0 ? WILD[chance.nextInt(WILD.length)] : chance.nextInt(nodes + 2);
     }
 
     private int four() {
@@ -68,6 +78,8 @@ public final class RoomTest {
     }
 
     private void anyCall(int call) {
+        nodes = x.count(2);
+        calls += 2;
         switch (call) {
             case 0: x.load(wild()); break;
             case 1: x.edit(wild(), wild(), wild()); break;

@@ -44,7 +44,8 @@ final class Texts {
     /** The object's text, by its octets. */
     static String text(KeptTree x) {
         StringBuilder all = new StringBuilder();
-        for (int i = 0; i < x.count(0); i++) {
+        int many = x.count(0);
+        for (int i = 0; i < many; i++) {
             all.append((char) x.octet(i));
         }
         return all.toString();
