@@ -318,6 +318,15 @@ public final class PromiseEdgeTest {
         KeptTree y = Texts.of("ab=abc+ab+a;");
         due("not those that only begin so", Texts.rename(y, 2, "q"), 2);
         dueText("rename", y, "q=abc+q+a;");
+        KeptTree first = Texts.of("a=1;");
+        due("the first TOKEN of all", Texts.rename(first, 2, "b"), 1);
+        due("it is DIRTY", first.token(0, 4), 0);
+        due("it alone", first.dirty(2), 1);
+        KeptTree last = Texts.of("a=b");
+        due("the last TOKEN of all", Texts.rename(last, 4, "c"), 1);
+        dueText("rename", last, "a=c");
+        due("it is DIRTY", last.token(2, 4), 0);
+        due("it alone", last.dirty(2), 1);
         KeptTree z = Texts.of("a=a" + "+a".repeat(99) + ";");
         due("101 of them", Texts.rename(z, 2, "b"), 101);
         due("as many bytes", z.count(0), 202);
@@ -864,6 +873,12 @@ public final class PromiseEdgeTest {
         due("one behind the other", Texts.of("a=b+c;a=c+b;").alike(2, 10), 0);
         due("but blanks", Texts.of("a=b+c;a = b\n+ # c\nc ;").alike(2, 10), 1);
         due("a child less", Texts.of("f();f(1);").alike(2, 7), 0);
+        KeptTree lists = Texts.of("f(;f(}f(");
+        // what is behind a LIST of one MISSING is not of it
+        due("LISTS of one MISSING", lists.alike(lists.find(4, 0), lists.find(4, 1)), 1);
+        due("LISTS of one MISSING", lists.twins(lists.find(4, 2)), 3);
+        due("CALLS of them", lists.alike(lists.find(3, 1), lists.find(3, 2)), 1);
+        due("CALLS, one with ;", lists.alike(lists.find(3, 0), lists.find(3, 1)), 0);
     }
 
     // Promise 32: "of like ones the first", "-2: there is none; NONE: no such ones"
@@ -989,6 +1004,12 @@ public final class PromiseEdgeTest {
         Texts.edit(like, 4, 5, "!");
         due("of like ones the first", like.greatest(0), like.find(2, 0));
         due("both", like.whole(), 2);
+        KeptTree later = Texts.of(";!a=1;?f(1,2);");
+        Texts.edit(later, 1, 2, "?");
+        Texts.edit(later, 6, 7, "!");
+        // ; ? SET by themselves, the CALL
+        due("a later one is greater", later.greatest(0), later.find(3, 0));
+        due("a later one is greater", later.greatest(1), 7);
         KeptTree none = Texts.of("ab");
         due("none is KEPT", none.edit(1, 1, 0), 0);
         due("there is none", none.greatest(0), -2);
@@ -1014,6 +1035,13 @@ public final class PromiseEdgeTest {
         due("undo, redo are none", x.share(), -2);
         x.edit(0, 0, 0);
         due("0 of 1", x.share(), 0);
+        KeptTree early = new KeptTree();
+        early.edit(0, 0, 0);
+        due("ahead of any load(): 0 of 1", early.share(), 0);
+        Texts.edit(early, 0, 0, ";");
+        Texts.edit(early, 1, 1, ";");
+        // 0 of 1, 0 of 2, 1 of 4
+        due("ahead of any load(): 1 of 7", early.share(), 14);
         KeptTree full = Texts.of(";".repeat(300));
         due("599 of 600", full.edit(0, 0, 0), 599);
         due("cut", full.share(), 99);
@@ -1051,6 +1079,18 @@ public final class PromiseEdgeTest {
         acts.swap(acts.find(5, 0), acts.find(5, 1));
         // 0 of 10
         due("8 of 32", acts.share(), 25);
+        KeptTree more = Texts.of("a=1 ?");
+        // FILE REPEAT SET NAME = 1 MISSING ERROR: all KEPT but FILE, MISSING
+        due("edit", more.edit(0, 0, 0), 6);
+        due("6 of 8", more.share(), 75);
+        due("mend", more.mend(), 2);
+        // a = of FILE SET NAME = 1 ;
+        due("8 of 14", more.share(), 57);
+        due("rename", Texts.rename(more, 2, "b"), 1);
+        // = 1 ; of 6
+        due("11 of 20", more.share(), 55);
+        due("rename, refused", Texts.rename(more, 0, "b"), NONE);
+        due("11 of 20 still", more.share(), 55);
     }
 
     // Promises 39, 40: "k NONE: how many", "-2: not so many; NONE: k below NONE", "NONE: no NAME"

@@ -25,6 +25,7 @@ public final class TermsEdgeTest {
         repeatsOfEachLength();
         repeatsWithinBlocks();
         itemsByFirstToken();
+        wordsByEachLetter();
         blocksUpToTheEnd();
         bodiesThatAreMissing();
         signsThatAreMissing();
@@ -36,6 +37,7 @@ public final class TermsEdgeTest {
         placesWithoutTokens();
         keptAheadOfA();
         keptFromBOn();
+        keptByTheLastEdit();
         keptBySortAndLength();
         nodesKeptBySort();
         nodesKeptByJustTheseTokens();
@@ -367,6 +369,23 @@ public final class TermsEdgeTest {
         dueSorts("a\n=", 0, 2, 12, 16, 17, 17);
     }
 
+    // "if, while (WORDS)", "but else": no word that is one letter off
+    private static void wordsByEachLetter() {
+        for (String word : new String[] {"if", "while", "else"}) {
+            for (int i = 0; i < word.length(); i++) {
+                for (char letter : new char[] {'a', 'x', 'z'}) {
+                    String other = word.substring(0, i) + letter + word.substring(i + 1);
+                    dueSorts(other + "=" + other + ";", 0, 2, 12, 16, 12, 16);
+                    due("rename to " + other, Texts.rename(Texts.of("b=b;"), 2, other), 2);
+                }
+            }
+            dueSorts(word + "e=" + word + "e;", 0, 2, 12, 16, 12, 16);
+            dueSorts("e" + word + "=e" + word + ";", 0, 2, 12, 16, 12, 16);
+            String less = word.substring(1);
+            dueSorts(less + "=" + less + ";", 0, 2, 12, 16, 12, 16);
+        }
+    }
+
     // "ITEMS up to the next } that no BLOCK within takes, or up to the end"
     private static void blocksUpToTheEnd() {
         dueSorts("{", 0, 5, 16, 17);
@@ -619,6 +638,30 @@ public final class TermsEdgeTest {
         Texts.edit(hash, 2, 3, "");
         due("it is none of those that there were", hash.count(6), 2);
         due("what came back is DIRTY", hash.dirty(0), 2);
+    }
+
+    // "there was one .. ahead of the EDIT": of the last EDIT, not of one before
+    private static void keptByTheLastEdit() {
+        KeptTree x = Texts.of(" ;");
+        Texts.edit(x, 0, 2, "#;\n;");
+        due("one", x.count(1), 1);
+        Texts.edit(x, 0, 1, "");
+        // ; LINE ; : ahead of this EDIT the first one was no TOKEN
+        due("two", x.count(1), 2);
+        due("there was none", x.token(0, 4), 0);
+        due("there was one", x.token(1, 4), 1);
+        KeptTree y = Texts.of("a=1;;");
+        Texts.edit(y, 4, 5, "");
+        due("SET", y.node(1, 8), 1);
+        Texts.edit(y, 4, 4, ";");
+        due("SET", y.node(2, 8), 1);
+        due("a REPEAT that was there two EDITS ago", y.node(1, 8), 0);
+        due("EMPTY that was there two EDITS ago", y.node(7, 8), 0);
+        KeptTree z = Texts.of("; a =1;");
+        Texts.edit(z, 4, 7, "");
+        Texts.edit(z, 4, 4, "=1;");
+        due("a was there", z.token(1, 4), 1);
+        due("as an ERROR, a NAME it was two EDITS ago", z.node(z.token(1, 5), 8), 0);
     }
 
     // "if there was one of the same sort and as many bytes"

@@ -20,6 +20,7 @@ final class Look {
 
     static List<String> at(Run run) {
         Look look = new Look(run);
+        look.alone();
         look.sizes();
         look.bytesAndLines();
         look.tokens();
@@ -63,6 +64,23 @@ final class Look {
 
     private void add(String answer) {
         answers.add(answer);
+    }
+
+    /** Each of these is the first question of a new object: no other one can have changed its answer. */
+    private void alone() {
+        add("share first: " + run.made().share());
+        add("whole first: " + run.made().whole());
+        for (int what = 0; what < 12; what++) {
+            add("count " + what + " first: " + run.made().count(what));
+        }
+        for (int what = 0; what < 4; what++) {
+            add("dirty " + what + " first: " + run.made().dirty(what));
+            add("greatest " + what + " first: " + run.made().greatest(what));
+        }
+        for (int sort = 0; sort < 18; sort++) {
+            add("lost " + sort + " first: " + run.made().lost(sort));
+            add("find " + sort + " first: " + run.made().find(sort, -1));
+        }
     }
 
     private void sizes() {
