@@ -44,6 +44,9 @@ public final class KeptTree {
     private static final int MISSING = 17;
     private static final int SORTS = 18;
 
+    // The number of the node that FILE is.
+    private static final int ROOT = 0;
+
     private static final int LINE_END = 10;
     private static final int BLANK = 32;
     private static final int HASH = 35;
@@ -483,7 +486,7 @@ public final class KeptTree {
             return NONE;
         }
         // Nodes that share a byte stand within one another, so the last one is the innermost.
-        int found = FILE;
+        int found = ROOT;
         for (int at = 0; at < tree.size(); at++) {
             if (tree.firstOf(at) <= a && tree.endOf(at) >= b) {
                 found = at;
@@ -1255,7 +1258,7 @@ public final class KeptTree {
         }
 
         int firstOf(int node) {
-            if (node == FILE) {
+            if (node == ROOT) {
                 return 0;
             }
             int from = fromOf(node);
@@ -1263,7 +1266,7 @@ public final class KeptTree {
         }
 
         int endOf(int node) {
-            return node == FILE ? text.size() : tokens.endOf(fromOf(node) + takenOf(node) - 1);
+            return node == ROOT ? text.size() : tokens.endOf(fromOf(node) + takenOf(node) - 1);
         }
 
         int kidOf(int node, int k) {
@@ -1897,7 +1900,7 @@ public final class KeptTree {
         private boolean wasThere(int node) {
             int from = tree.fromOf(node);
             int taken = tree.takenOf(node);
-            if (node == FILE || taken == 0 || from < 0 || from >= runs.length || runs[from] < taken) {
+            if (node == ROOT || taken == 0 || from < 0 || from >= runs.length || runs[from] < taken) {
                 return false;
             }
             int origin = originOf(from);
